@@ -264,6 +264,9 @@ public final class MemoryTest {
         x.copies(8);
         x.image(1);
         x.copies(1);
+        D.due("a text", x.text(20), -11);
         Due.text(x, "roller 10 speed 5; eye 20;");
+        D.due("restored", x.restore(1), true);
+        D.due("COPIES", x.count(10), 8);
     }
 }
