@@ -16,6 +16,8 @@ public final class PaperWay {
     private static final int MOST_TICKS = 300;
     private static final int SHORTEST = 10;
     private static final int LONGEST = 60;
+    /** Beyond any place on a way, in tenths of a step. */
+    private static final int FAR = 1000000;
 
     private final Reader reader = new Reader();
     private final Flaws flaws = new Flaws();
@@ -926,7 +928,7 @@ public final class PaperWay {
 
         /** The tenth beyond which a head can't go for a corner. */
         int cornerLimit(int head) {
-            int limit = Integer.MAX_VALUE;
+            int limit = FAR;
             for (int i = 0; i < corners; i++) {
                 int tenths = cornerPlace[i] * 10;
                 if (tenths >= head && tenths < limit) {
@@ -967,8 +969,10 @@ public final class PaperWay {
         }
 
         void cutOff() {
-            Arrays.fill(seeing, false);
-            Arrays.fill(open, NONE);
+            for (int e = 0; e < Way.MOST_EYES; e++) {
+                seeing[e] = false;
+                open[e] = NONE;
+            }
         }
 
         void look(int eye, boolean sees, int now) {
@@ -1089,7 +1093,7 @@ public final class PaperWay {
         void goOnce() {
             now++;
             int before = lined;
-            int limit = Integer.MAX_VALUE;
+            int limit = FAR;
             lined = 0;
             for (int i = 0; i < before; i++) {
                 int s = line[i];
@@ -1244,7 +1248,9 @@ public final class PaperWay {
 
         int dropObserved() {
             int old = observed;
-            Arrays.fill(told, false);
+            for (int e = 0; e < Way.MOST_EYES; e++) {
+                told[e] = false;
+            }
             observed = 0;
             soughtLength = NONE;
             return old;
@@ -1262,15 +1268,18 @@ public final class PaperWay {
                 return;
             }
             found = 1;
-            for (first = 0; first < END; first++) {
-                if (isWorthTrying(way, first) && explains(way, length, first, NONE)) {
+            for (int a = 0; a < END; a++) {
+                if (isWorthTrying(way, a) && explains(way, length, a, NONE)) {
+                    first = a;
                     return;
                 }
             }
             found = 2;
-            for (first = 0; first < END; first++) {
-                for (second = isWorthTrying(way, first) ? first + 1 : END; second < END; second++) {
-                    if (isWorthTrying(way, second) && explains(way, length, first, second)) {
+            for (int a = 0; a < END; a++) {
+                for (int b = isWorthTrying(way, a) ? a + 1 : END; b < END; b++) {
+                    if (isWorthTrying(way, b) && explains(way, length, a, b)) {
+                        first = a;
+                        second = b;
                         return;
                     }
                 }
@@ -1486,7 +1495,7 @@ public final class PaperWay {
             Arrays.fill(met, 0L);
             queued = 0;
             meet(0, 0, job.heatNeed == 0 ? 0 : job.heatFirst, NO_TRAY, 0, 0L);
-            for (int i = 0; i < queued && goal == NONE; i++) {
+            for (int i = 0; i < queued && i < MOST_MET && goal == NONE; i++) {
                 leave(i);
             }
             if (goal != NONE) {
@@ -1653,9 +1662,11 @@ public final class PaperWay {
         private void pairInOrder(Job job) {
             int from = 0;
             int left = pairs;
+            int page = NONE;
             for (int w = 0; w < wanted; w++) {
+                page = page + 1 < job.pages ? page + 1 : 0;
                 paired[w] = NONE;
-                int s = left > 0 ? earliest(job, from, w % job.pages) : NONE;
+                int s = left > 0 ? earliest(job, from, page) : NONE;
                 if (s != NONE && room[(s + 1) * WIDTH + left - 1] > w) {
                     paired[w] = s;
                     from = s + 1;
@@ -1702,6 +1713,8 @@ public final class PaperWay {
     /** The cheapest visits of service, by trying every set of weeks. */
     private static final class Rounds {
         static final int CANNOT = -1;
+        /** Above what ten visits and a hundred new parts can cost. */
+        static final int DEAR = 1000000;
 
         /** The weeks for which the answer stands; NONE where it must be sought anew. */
         int weeks = NONE;
@@ -1717,7 +1730,7 @@ public final class PaperWay {
             }
             weeks = n;
             priceSought = price;
-            total = Integer.MAX_VALUE;
+            total = DEAR;
             for (int mask = 0; mask < 1 << n; mask++) {
                 int cost = costOfNewOnes(job, n, mask);
                 int sum = cost + Integer.bitCount(mask) * price;
