@@ -1525,7 +1525,7 @@ public final class PaperWay {
             long from = (long) parent << PARENT_SHIFT;
             int aged = agedPocket(ripe, 0);
             int hotter = Math.min(Job.MOST_HEAT, heatNow + job.heatGain);
-            meet(fed, aged, job.heatNeed == 0 ? 0 : hotter, lastTray, 1, from);
+            meet(fed, aged, job.heatNeed == 0 ? 0 : hotter, lastTray, 1, from | (long) STOP << ACT_SHIFT);
             if (heatNow < job.heatNeed) {
                 return;
             }

@@ -150,6 +150,10 @@ public final class CausesTest {
         explained(told(WAY, 30), 20, 49);
         explained(told(WAY, 20, 2, 22, 0), 20, 50);
         explained(told(WAY, 20, 2, 42, 0), 20, 51);
+        String single = "way 40; roller 30 speed 4; eye 31; eye 33; eye 36; eye 38; eye 40;";
+        explained(told(single, 60, 0, 0, 200), 60, 0);
+        explained(told(single, 60, 0, 0, 500), 60, 10);
+        explained(told(single, 60, 1, 0, 3), 60, 20);
         int[] due = {2, 6, 6, 10, 8, 12};
         for (int e = 0; e < 3; e++) {
             PaperWay x = Due.way(WAY);
@@ -228,6 +232,11 @@ public final class CausesTest {
         v.saw(1, 120, -1);
         v.saw(2, -1, -1);
         explained(v, 60);
+        v.saw(1, -1, -1);
+        // tick 120 counts: with WEAR of roller 2 the HEAD isn't there by then
+        explained(v, 60, 2);
+        v.saw(1, 119, -1);
+        unexplained(v, 60);
     }
 
     private static void askedAnew() {
@@ -285,6 +294,11 @@ public final class CausesTest {
         PaperWay z = Due.way("way 50; roller 1 speed 1; roller 49 speed 9; eye 3;");
         z.set(0, 0, 900);
         D.due("480 ticks are too many", z.foretold(0, 0, 50), 1);
+        // 390 ticks by 1 to HEAD 400; then TAIL -90 and 10 times 50 is 410, or TAIL -140 and 11 times 50
+        PaperWay v = Due.way("way 41; roller 1 speed 1; roller 40 speed 5;");
+        v.set(0, 0, 900);
+        D.due("OUT in tick 400", v.foretold(0, 0, 49), -1);
+        D.due("OUT in tick 401 is too late", v.foretold(0, 0, 54), 1);
     }
 
     private static void foretoldIsOnTheWayAsItIs() {

@@ -10,6 +10,7 @@ public final class MemoryTest {
         loads();
         imagesMade();
         imagesHoldAll();
+        imagesInTurn();
         imagesHoldNoMore();
         D.end();
     }
@@ -237,6 +238,66 @@ public final class MemoryTest {
         D.due("no parts told", y.service(9, 9, 0), 0);
         y.page(0, false);
         D.due("no paper", y.plan(-1), -1);
+    }
+
+    private static void makeJob(PaperWay x, int seed) {
+        Due.Dice dice = new Due.Dice(seed);
+        x.empty();
+        int n = dice.between(4, 8);
+        for (int i = 0; i < n; i++) {
+            x.page(dice.roll(4), dice.roll(2) == 0);
+        }
+        for (int t = 0; t < 4; t++) {
+            x.tray(t, (t + seed) % 4, true);
+        }
+        x.pocket(dice.between(1, 3), dice.between(0, 4));
+        x.heat(dice.between(5, 30), dice.between(5, 20), dice.between(1, 10), dice.between(1, 10));
+        x.copies(dice.between(1, 4));
+        for (int i = 0; i < 12; i++) {
+            x.out(dice.roll(n));
+        }
+        for (int p = 0; p < 5; p++) {
+            x.part(dice.roll(10), dice.roll(100), dice.between(1, 6), dice.roll(5));
+        }
+    }
+
+    private static void sameJob(String at, PaperWay x, PaperWay due) {
+        for (int what = 9; what <= 11; what++) {
+            D.due(at + "count(" + what + ")", x.count(what), due.count(what));
+        }
+        int slots = Math.min(40, due.plan(-1));
+        for (int k = -1; k < slots; k++) {
+            D.due(at + "plan(" + k + ")", x.plan(k), due.plan(k));
+        }
+        for (int w = 0; w < due.count(9) * due.count(10); w++) {
+            D.due(at + "kept(" + w + ")", x.kept(w), due.kept(w));
+        }
+        D.due(at + "pay", x.pay(1000, 1, 1), due.pay(1000, 1, 1));
+        for (int what = 0; what < 3; what++) {
+            D.due(at + "service(9, 7, " + what + ")", x.service(9, 7, what), due.service(9, 7, what));
+        }
+    }
+
+    /** Two jobs in turn in one object, as each is in an object of its own. */
+    private static void imagesInTurn() {
+        for (int seed = 1; seed <= 20; seed++) {
+            PaperWay a = new PaperWay();
+            makeJob(a, seed);
+            PaperWay b = new PaperWay();
+            makeJob(b, seed + 101);
+            PaperWay x = new PaperWay();
+            x.image(0);
+            makeJob(x, seed);
+            x.image(1);
+            x.restore(0);
+            makeJob(x, seed + 101);
+            x.image(0);
+            sameJob("b of " + seed + ": ", x, b);
+            x.restore(1);
+            sameJob("a of " + seed + ": ", x, a);
+            x.restore(0);
+            sameJob("b again of " + seed + ": ", x, b);
+        }
     }
 
     private static void imagesHoldNoMore() {

@@ -58,9 +58,21 @@ public final class NewObjectTest {
         d.due("in", y.plan(0), 2);
         d.due("out", y.plan(1), 1);
         d.due("in", y.plan(2), 2);
+        y.tray(1, 1, true);
+        y.page(1, true);
+        // with HOLD 2 it would be less to stop right behind the second
+        int[] acts = {2, 1, 2, 1, 0, 3, 1};
+        planned(d, y, acts);
         y.pocket(2, 0);
         d.due("HOLD 2, in", y.plan(0), 2);
         d.due("HOLD 2, out", y.plan(1), 1);
+    }
+
+    private static void planned(Due d, PaperWay y, int[] acts) {
+        d.due("HOLD is 1 at first", y.plan(-1), acts.length);
+        for (int k = 0; k < acts.length; k++) {
+            d.due("HOLD is 1 at first, act " + k, y.plan(k), acts[k]);
+        }
     }
 
     private static void partsAtFirst(Due d) {

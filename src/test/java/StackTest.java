@@ -159,6 +159,21 @@ public final class StackTest {
     }
 
     private static void anewAfterEachCall() {
+        // each of the three looks at the stack as it is, whichever comes first
+        PaperWay y = pages(2, 1);
+        y.out(1);
+        D.due("kept first", y.kept(1), 0);
+        y.out(1);
+        y.empty();
+        D.due("lack first", y.lack(1), 1);
+        y.out(0);
+        D.due("lack first", y.lack(0), 1);
+        y.out(1);
+        D.due("kept first", y.kept(1), 1);
+        y.copies(2);
+        D.due("again first", y.again(0), 2);
+        y.copies(3);
+        D.due("kept first", y.kept(2), -1);
         PaperWay x = pages(1, 2);
         D.due("two lack", x.again(0), 2);
         x.out(0);
@@ -210,6 +225,7 @@ public final class StackTest {
         D.due("n 7", x.pay(7, 100, 1), 600);
         D.due("n 1000", x.pay(1000, 3, 1), 18);
         D.due("a 0", x.pay(4, 0, 7), 14);
+        D.due("b 0", x.pay(4, 7, 0), 28);
         D.due("b 100", x.pay(0, 0, 100), 600);
         D.due("n -1", x.pay(-1, 1, 1), -1);
         D.due("n 1001", x.pay(1001, 1, 1), -1);

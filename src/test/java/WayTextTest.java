@@ -10,6 +10,9 @@ public final class WayTextTest {
         bounds();
         doublesAndTooMany();
         whatStaysAndGoes();
+        oneTextAfterAnother();
+        sheetsGoWithTheirText();
+        fullTapes();
         faultCall();
         counts();
         D.end();
@@ -213,6 +216,82 @@ public final class WayTextTest {
         D.due("the stack stays", x.count(11), 1);
         D.due("the row stays", x.save(0), 1);
         D.due("a sheet again", x.lay(20, false), 0);
+    }
+
+    /** Nothing of an earlier text is left in a later one. */
+    private static void oneTextAfterAnother() {
+        PaperWay x = Due.way("way 60; roller 10 speed 5; roller 20 speed 5; eye 5; eye 8; damp 90;"
+                + "turn 40 back 5 hold 3 rest 9;");
+        for (int i = 0; i < 3; i++) {
+            D.due("a plain text", Due.text(x, "roller 10 speed 5; eye 7;"), 2);
+            D.due("ROLLERS", x.count(0), 1);
+            D.due("EYES", x.count(1), 1);
+            D.due("LENGTH", x.count(2), 100);
+            D.due("no turn", x.lay(20, true), -5);
+            x.lay(20, false);
+            x.tick(1);
+            D.due("no damp", x.sheet(0, 1), 150);
+        }
+        D.due("a faulty one", Due.text(x, "way 60; eye 5; eye 8; damp 90; turn 40 back 5 hold 3 rest 9; roller"), -12);
+        D.due("a damp again", Due.text(x, "roller 10 speed 5; damp 0; turn 9 back 1 hold 1 rest 1; eye 1;"), 4);
+        D.due("EYES", x.count(1), 1);
+    }
+
+    /** Sheets of an earlier text play no part, wherever they are. */
+    private static void sheetsGoWithTheirText() {
+        String way = "roller 10 speed 5; roller 15 speed 5; roller 20 speed 5; turn 12 back 5 hold 1 rest 20;";
+        PaperWay x = Due.way(way);
+        x.lay(10, true);
+        x.tick(3);
+        D.due("in the POCKET", x.count(5), 1);
+        x.lay(20, false);
+        x.corner(12, true);
+        D.due("ticks to a JAM", x.tick(99), 6);
+        D.due("JAMMED", x.count(6), 1);
+        D.due("the same text anew", Due.text(x, way), 4);
+        D.due("none JAMMED", x.count(6), -1);
+        D.due("none in the POCKET", x.count(5), 0);
+        D.due("none to clear", x.clear(false), -5);
+        D.due("lay", x.lay(20, false), 0);
+        D.due("lay", x.sheet(0, 4), 0);
+        D.due("ticks", x.tick(30), 11);
+        D.due("none came back", x.count(4), 1);
+        D.due("JAMMED, no roller under it", x.count(6), 0);
+        D.due("STOOD", x.sheet(0, 4), 5);
+        D.due("the same text anew", Due.text(x, way), 4);
+        D.due("lay", x.lay(20, true), 0);
+        D.due("STOOD anew", x.sheet(0, 4), 0);
+        D.due("ticks", x.tick(7), 7);
+        D.due("the POCKET takes it", x.sheet(0, 0), 1);
+    }
+
+    private static void fullTapes() {
+        StringBuilder s = new StringBuilder("roller 10 speed 5;");
+        while (s.length() < 398) {
+            s.append(' ');
+        }
+        PaperWay x = new PaperWay();
+        D.due("400 bytes", Due.text(x, s + "  "), 1);
+        D.due("400 bytes and a fault at the last", Due.text(x, s + " ;"), -12);
+        D.due("its place", x.fault(1), 399);
+        D.due("no end in 400 bytes", Due.text(x, s + "ey"), -12);
+        D.due("its place", x.fault(1), 398);
+        StringBuilder t = new StringBuilder();
+        StringBuilder u = new StringBuilder();
+        for (int i = 0; i < 200; i++) {
+            t.append(";;");
+            u.append("1;");
+        }
+        D.due("400 signs", Due.text(x, t.toString()), -12);
+        D.due("400 numbers and signs", Due.text(x, u.toString()), -12);
+        D.due("the first is at fault", x.fault(1), 0);
+        StringBuilder v = new StringBuilder("roller 1 speed 1;eye 1;");
+        while (v.length() < 400) {
+            v.append("way ");
+        }
+        v.setLength(400);
+        D.due("words to the end", Due.text(x, v.toString()), -12);
+        D.due("the first of them is at fault", x.fault(1), 23);
     }
 
     private static void faultCall() {
