@@ -943,9 +943,10 @@ public final class PaperWay {
             for (int r = 0; r < way.rollers; r++) {
                 int tenths = way.rollerPlace[r] * 10;
                 boolean misses = beat[r] != 0 && now % beat[r] == 0;
-                if (tenths > tail && tenths <= head && !misses) {
-                    int grip = Math.max(0, MOST_WEAR - wear[r] - way.damp);
-                    most = Math.max(most, 10 * way.speed[r] * grip / MOST_WEAR);
+                // with wear and damp above 1000 this is below 0, and so never the most
+                int gives = 10 * way.speed[r] * (MOST_WEAR - wear[r] - way.damp) / MOST_WEAR;
+                if (tenths > tail && tenths <= head && !misses && gives > most) {
+                    most = gives;
                 }
             }
             return most;
@@ -1090,7 +1091,16 @@ public final class PaperWay {
             lined = Math.min(lined + 1, MOST_SHEETS);
         }
 
+        /** One tick. */
         void goOnce() {
+            carryOn();
+            for (int e = 0; e < way.eyes; e++) {
+                watch.look(e, isUnderEye(way.eyePlace[e] * 10), now);
+            }
+        }
+
+        /** One tick without a look at the eyes. */
+        void carryOn() {
             now++;
             int before = lined;
             int limit = FAR;
@@ -1106,9 +1116,6 @@ public final class PaperWay {
             }
             findJam();
             comeBack();
-            for (int e = 0; e < way.eyes; e++) {
-                watch.look(e, isUnderEye(way.eyePlace[e] * 10), now);
-            }
         }
 
         private void move(int s, int limit) {
@@ -1175,7 +1182,7 @@ public final class PaperWay {
             putOnWay(s, front, 2);
         }
 
-        private boolean isUnderEye(int place) {
+        boolean isUnderEye(int place) {
             for (int i = 0; i < lined; i++) {
                 if (place <= head[line[i]] && place > tailOf(line[i])) {
                     return true;
@@ -1219,6 +1226,8 @@ public final class PaperWay {
         private final boolean[] told = new boolean[Way.MOST_EYES];
         private final int[] on = new int[Way.MOST_EYES];
         private final int[] off = new int[Way.MOST_EYES];
+        /** How far the head came with each cause alone, until the trial was refused. */
+        private final int[] reach = new int[END];
         private final Traffic trial = new Traffic();
         private final Flaws trialFlaws = new Flaws();
         /** The length for which the answer stands; NONE where it must be sought anew. */
@@ -1261,25 +1270,29 @@ public final class PaperWay {
                 return;
             }
             soughtLength = length;
-            first = NONE;
-            second = NONE;
             found = 0;
             if (explains(way, length, NONE, NONE)) {
                 return;
             }
+            int plainReach = trial.head[0];
             found = 1;
             for (int a = 0; a < END; a++) {
-                if (isWorthTrying(way, a) && explains(way, length, a, NONE)) {
+                reach[a] = plainReach;
+                if (isWorthTrying(way, a) && canMatter(way, a, plainReach)) {
                     first = a;
-                    return;
+                    if (explains(way, length, a, NONE)) {
+                        return;
+                    }
+                    reach[a] = trial.head[0];
                 }
             }
             found = 2;
             for (int a = 0; a < END; a++) {
+                first = a;
                 for (int b = isWorthTrying(way, a) ? a + 1 : END; b < END; b++) {
-                    if (isWorthTrying(way, b) && explains(way, length, a, b)) {
-                        first = a;
-                        second = b;
+                    second = b;
+                    boolean can = isWorthTrying(way, b) && canMatter(way, b, reach[a]) && canMatter(way, a, reach[b]);
+                    if (can && explains(way, length, a, b)) {
                         return;
                     }
                 }
@@ -1303,6 +1316,20 @@ public final class PaperWay {
             return way.hasEye(eye) && way.eyePlace[eye] + 2 <= way.length;
         }
 
+        /**
+         * Whether a trial that was refused with its head at reach can end otherwise with this cause, too:
+         * one that the head hadn't come to by then would have changed nothing.
+         */
+        private static boolean canMatter(Way way, int cause, int reach) {
+            if (cause < BLIND) {
+                return reach >= way.rollerPlace[cause % 10] * 10;
+            }
+            if (cause < LONGER) {
+                return reach >= way.eyePlace[cause - BLIND] * 10;
+            }
+            return cause == LONGER || reach > (way.eyePlace[cause - CORNER] + 2) * 10;
+        }
+
         private boolean explains(Way way, int length, int a, int b) {
             trialFlaws.reset();
             putFlaw(way, a);
@@ -1310,7 +1337,7 @@ public final class PaperWay {
             trial.start(way, trialFlaws);
             trial.begin(a == LONGER || b == LONGER ? length + 10 : length, false);
             for (int t = 1; t <= OBSERVED_TICKS; t++) {
-                trial.goOnce();
+                trial.carryOn();
                 if (!isSeenSo(way, t, a, b)) {
                     return false;
                 }
@@ -1341,7 +1368,7 @@ public final class PaperWay {
                 if (told[e]) {
                     boolean due = on[e] != NONE && t >= on[e] && (off[e] == NONE || t < off[e]);
                     boolean blind = a == BLIND + e || b == BLIND + e;
-                    if (due != (trial.watch.seeing[e] && !blind)) {
+                    if (due != (!blind && trial.isUnderEye(way.eyePlace[e] * 10))) {
                         return false;
                     }
                 }
@@ -1366,7 +1393,7 @@ public final class PaperWay {
                 trial.start(way, trialFlaws);
                 trial.begin(length, false);
                 for (int t = 0; t < ALONE_TICKS && trial.state[0] == Traffic.UNDER_WAY; t++) {
-                    trial.goOnce();
+                    trial.carryOn();
                 }
                 if (trial.state[0] != Traffic.OUT) {
                     return n;
