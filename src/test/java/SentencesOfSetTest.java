@@ -57,6 +57,10 @@ public final class SentencesOfSetTest {
         S.due("the first", x.page(0, false), 0);
         S.due("the second", x.page(3, true), 1);
         S.due("PAGES", x.count(9), 2);
+        PaperWay w = set("a");
+        S.due("asked ahead", w.again(0) * 10 + w.lack(1), 9);
+        S.due("one more", w.page(0, false), 1);
+        S.due("it is WANTED, too", w.again(0) * 10 + w.lack(1), 21);
         S.promise(18, "-3: KIND");
         for (int kind : new int[] {-1, 4, LEAST, MOST}) {
             S.due("KIND " + kind, x.page(kind, false), -3);
@@ -556,6 +560,11 @@ public final class SentencesOfSetTest {
         paired("two", x, 4, -1, 2, -1, -1, 3, -1, -1, -1);
         stack(x);
         paired("of nothing", x, 0, -1, -1, -1, -1, -1, -1, -1, -1);
+        PaperWay z = set("aaa");
+        stack(z, 1, 2, 0, 0);
+        paired("1 and 2, not 0 once", z, 4, -1, 0, 1);
+        stack(z, 2, 0, 2, 0, 0);
+        paired("0 and 2, not 2 ahead of 0", z, 5, 1, -1, 2);
         PaperWay y = set("aaaaaaaa");
         y.copies(8);
         int[] all = new int[64];

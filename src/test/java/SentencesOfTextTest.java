@@ -114,6 +114,7 @@ public final class SentencesOfTextTest {
         Due.feed(x, Due.bytes(s), s.length());
         S.due("no bytes", x.text(0), -12);
         S.due("THE TAPE is empty, too", x.count(12), 0);
+        cutWithinTokens(x);
         S.promise(3, "how many LINES (way, too)");
         S.due("one", Due.text(x, "roller 10 speed 5;"), 1);
         S.due("way, too", Due.text(x, "way 50;roller 10 speed 5;"), 2);
@@ -151,6 +152,34 @@ public final class SentencesOfTextTest {
             all.setLength(400);
             S.due("400 bytes of " + token, Due.text(x, all.toString()), -12);
             S.due("the first of them", x.fault(1), 0);
+        }
+    }
+
+    /** What THE TAPE has behind the first n bytes makes no TOKEN longer. */
+    private static void cutWithinTokens(PaperWay x) {
+        String[] tapes = {"roller 9999", "roller 50 speed 55;", "roller 50 speed 5;eye 60;", "roller 50 speed 5;damp 0;",
+            "roller 50 speed 5;damp 1234;"};
+        int[] n = {10, 17, 20, 21, 26};
+        int[] kind = {3, 2, 2, 2, 3};
+        int[] place = {7, 17, 18, 18, 23};
+        for (int k = 0; k < n.length; k++) {
+            Due.feed(x, Due.bytes(tapes[k]), tapes[k].length());
+            S.due("text(" + n[k] + ") of " + tapes[k], x.text(n[k]), -10 - kind[k]);
+            S.due("its FAULT", x.fault(0), kind[k]);
+            S.due("its place", x.fault(1), place[k]);
+        }
+        // a TAPE that is full, with a TOKEN up to its last byte
+        StringBuilder t = new StringBuilder("roller 50 speed 5;");
+        while (t.length() < 398) {
+            t.append(' ');
+        }
+        int[] lasts = {-12, -12, -11, 1};
+        String[] ends = {"ey", "12", " ?", "  "};
+        int[] places = {398, 398, 399, -1};
+        for (int k = 0; k < ends.length; k++) {
+            Due.feed(x, Due.bytes(t + ends[k]), 400);
+            S.due("400 bytes, the last " + ends[k], x.text(400), lasts[k]);
+            S.due("its place", x.fault(1), places[k]);
         }
     }
 

@@ -24,6 +24,7 @@ public final class SentencesOfTrafficTest {
         driveGives();
         beats();
         order();
+        backBetweenTwo();
         cornersHold();
         tailsHold();
         waits();
@@ -587,6 +588,55 @@ public final class SentencesOfTrafficTest {
         y.tick(1);
         is("1 first", y, 1, 0, 250, 1, 0);
         is("0 then", y, 0, 0, 150, 2, 0);
+    }
+
+    /** 0 came back in TICK 13 between 1 ahead of it and 2 behind it, each under a ROLLER. */
+    private static PaperWay backBetween() {
+        PaperWay x = Due.way("roller 5 speed 5;roller 14 speed 5;roller 23 speed 5;roller 32 speed 5;roller 41 speed 5;"
+                + "roller 50 speed 5;roller 59 speed 5;roller 68 speed 5;roller 77 speed 5;turn 40 back 39 hold 1 rest 4;");
+        layEach(x, 1, 10, true, 2);
+        S.due("1 is laid", x.lay(10, false), 1);
+        x.tick(7);
+        is("0 is in", x, 0, 1, 500, 1, 0);
+        S.due("2 is laid", x.lay(10, false), 2);
+        x.tick(4);
+        is("1 is ahead", x, 1, 0, 600, 1, 0);
+        is("0 is back", x, 0, 0, 390, 2, 0);
+        is("2 is behind", x, 2, 0, 250, 1, 0);
+        return x;
+    }
+
+    private static void backBetweenTwo() {
+        S.terms(2, "(a) SHEETS under way, from the greatest HEAD down, go on by DRIVE");
+        PaperWay x = backBetween();
+        x.tick(1);
+        is("1 goes on", x, 1, 0, 650, 1, 0);
+        is("0 goes on", x, 0, 0, 440, 2, 0);
+        is("2 goes on", x, 2, 0, 300, 1, 0);
+        S.terms(2, "nor beyond the TAIL of the one with the next greater HEAD (as it is now;");
+        x.corner(44, true);
+        x.tick(1);
+        is("1 goes on", x, 1, 0, 700, 1, 0);
+        is("0 is held", x, 0, 0, 440, 2, 1);
+        is("2 to the TAIL of 0, not of 1", x, 2, 0, 340, 1, 0);
+        S.terms(2, "(b) If one has STOOD 5 TICKS, the one of these with the greatest HEAD is JAMMED: no TICKS any more");
+        S.due("0 STOOD 5, 2 a TICK less", x.tick(300), 4);
+        is("0", x, 0, 3, 440, 2, 5);
+        is("2", x, 2, 0, 340, 1, 4);
+        PaperWay y = backBetween();
+        y.corner(44, true);
+        y.corner(30, true);
+        S.due("0 and 2 stand at once", y.tick(300), 6);
+        is("0 of the greater HEAD", y, 0, 3, 440, 2, 5);
+        is("not 2", y, 2, 0, 300, 1, 5);
+        PaperWay z = backBetween();
+        z.corner(44, true);
+        z.corner(65, true);
+        z.corner(30, true);
+        S.due("all three stand at once", z.tick(300), 6);
+        is("1 of the greatest HEAD", z, 1, 3, 650, 1, 5);
+        is("not 0, of the least number", z, 0, 0, 440, 2, 5);
+        S.due("all three", z.clear(false), 3);
     }
 
     private static void cornersHold() {
